@@ -1,0 +1,151 @@
+import java.util.List;
+import java.util.Random;
+
+/** Patterns made by chance, always the same ones, against the terms of the document taken word for word. */
+public final class WaysTest {
+    private static final String[] ATOMS = {"a", "b", "a", "b", ".", "\\d", "\\w", "^", "$", "\\b", "\\B", "\\1", "\\2",
+        "\\3", "[ab]", "[^a]", "[a-b]", "\\-", "()", "", "1"};
+    private static final String[] LOOPS = {"?", "*", "+", "{2}", "{1,}", "{0,2}", "{2,4}", "{0}", "{4,}", "{2,}"};
+    private static final String[] OPENS = {"(", "(", "(", "(", "(?:", "(?=", "(?!", "(?<=", "(?<!", "(?>"};
+    private static final String[] TEXTS = {"a", "b", "a", "b", "a", "b", "1", "-", " "};
+    private static final String SIGNS = "ab01259|()[]{}*+?.^$\\-,:=!<>dwbB_ ";
+
+    private final Random random;
+
+    private WaysTest(long seed) {
+        random = new Random(seed);
+    }
+
+    public static void main(String[] args) {
+        int patterns = args.length > 0 ? Integer.parseInt(args[0]) : 20000;
+        long seed = args.length > 1 ? Long.parseLong(args[1]) : 1;
+        WaysTest test = new WaysTest(seed);
+        for (int i = 0; i < patterns; i++) {
+            test.compare(test.pattern());
+            test.compareReading(test.signs());
+        }
+        Check.done();
+    }
+
+    private String any(String[] of) {
+        return of[random.nextInt(of.length)];
+    }
+
+    private String pattern() {
+        String s;
+        do {
+            s = choice(random.nextInt(5));
+        } while (s.length() > 14);
+        return s;
+    }
+
+    private String choice(int depth) {
+        StringBuilder s = new StringBuilder(sequence(depth));
+        while (random.nextInt(4) == 0) {
+            s.append('|').append(sequence(depth));
+        }
+        return s.toString();
+    }
+
+    private String sequence(int depth) {
+        StringBuilder s = new StringBuilder();
+        int pieces = random.nextInt(8) == 0 ? 0 : 1 + random.nextInt(2);
+        for (int i = 0; i < pieces; i++) {
+            s.append(depth > 0 && random.nextInt(3) > 0 ? any(OPENS) + choice(depth - 1) + ")" : any(ATOMS));
+            if (random.nextInt(2) == 0) {
+                s.append(any(LOOPS)).append(any(new String[] {"", "", "?", "+"}));
+            }
+        }
+        return s.toString();
+    }
+
+    /** Signs by chance: mostly no pattern, or a pattern with one sign changed. */
+    private String signs() {
+        StringBuilder s = new StringBuilder(random.nextInt(2) == 0 ? pattern() : "");
+        if (s.length() > 0) {
+            s.setCharAt(random.nextInt(s.length()), SIGNS.charAt(random.nextInt(SIGNS.length())));
+            return s.toString();
+        }
+        int size = random.nextInt(8);
+        for (int i = 0; i < size; i++) {
+            s.append(SIGNS.charAt(random.nextInt(SIGNS.length())));
+        }
+        return s.toString();
+    }
+
+    private String text() {
+        StringBuilder s = new StringBuilder();
+        int size = random.nextInt(9);
+        boolean plain = random.nextInt(3) == 0;
+        for (int i = 0; i < size; i++) {
+            s.append(plain ? "a" : any(TEXTS));
+        }
+        return s.toString();
+    }
+
+    private static Object groupsDue(String pattern) {
+        try {
+            return new Ways(pattern, "").groups();
+        } catch (Ways.NoPattern e) {
+            return "IllegalArgumentException";
+        }
+    }
+
+    private void compareReading(String pattern) {
+        PatternMatcher x = new PatternMatcher();
+        Check.fill(x, 0, pattern);
+        Check.due("compile() of " + pattern, x::compile, groupsDue(pattern));
+    }
+
+    private void compare(String pattern) {
+        compareReading(pattern);
+        try {
+            new Ways(pattern, "");
+        } catch (Ways.NoPattern e) {
+            return;
+        }
+        PatternMatcher x = Check.with(pattern, "");
+        for (int i = 0; i < 4; i++) {
+            String text = text();
+            Check.fill(x, 1, text);
+            try {
+                compareMatches(x, new Ways(pattern, text), pattern, text);
+            } catch (Ways.NoPattern e) {
+                throw new IllegalStateException(e);
+            }
+        }
+    }
+
+    private static void compareMatches(PatternMatcher x, Ways ways, String pattern, String text) {
+        String name = " of " + pattern + " in " + text;
+        dueWay(x, "matches()" + name, x.matches(), 0, ways.first(0, text.length()), ways.groups());
+        dueWay(x, "looking()" + name, x.looking(), 0, ways.first(0, -1), ways.groups());
+        int begin = text.length();
+        while (begin >= 0) {
+            int place = begin;
+            while (place <= text.length() && ways.first(place, -1) == null) {
+                place++;
+            }
+            boolean found = place <= text.length();
+            int answer = x.find(begin);
+            Check.due("find(" + begin + ")" + name, answer, found ? place : -1);
+            dueWay(x, "find(" + begin + ")" + name, answer >= 0, place, found ? ways.first(place, -1) : null,
+                ways.groups());
+            begin--;
+        }
+    }
+
+    private static void dueWay(PatternMatcher x, String name, boolean found, int from, List<Integer> way, int groups) {
+        Check.due(name, found, way != null);
+        if (way == null) {
+            Check.due(name + ", start(0)", () -> x.start(0), "IllegalStateException");
+            return;
+        }
+        StringBuilder want = new StringBuilder(from + "-" + way.get(0));
+        for (int group = 1; group <= groups; group++) {
+            int begin = way.get(2 * group - 1);
+            want.append(begin < 0 ? " ." : " " + begin + "-" + way.get(2 * group));
+        }
+        Check.due(name + ", spans", Check.spans(x), want.toString());
+    }
+}
