@@ -28,7 +28,7 @@ public final class PatternMatcher {
     private static final long DIGITS_LOW = 0x03FF000000000000L;
     private static final long WORD_HIGH = 0x07FFFFFE87FFFFFEL;
 
-    private static final int FAIL = 0;
+    // The kinds of nodes; 0 is that of a node which has no way.
     private static final int DONE = 1;
     private static final int SET = 2;
     private static final int FIRST_PLACE = 3;
@@ -45,7 +45,7 @@ public final class PatternMatcher {
     private static final int LOOK = 14;
     private static final int ATOMIC = 15;
 
-    // A character of the pattern makes less than two nodes, and 26 are the most that a whole pattern has made.
+    // Four characters make at most seven nodes, as ()*+ does, and the pattern itself two: 26, and the one that is none.
     private static final int NODES = 32;
     private static final int NO_NODE = 0;
     private static final int NO_MOST = -1;
@@ -53,6 +53,7 @@ public final class PatternMatcher {
 
     // A span takes 12 bits: where it begins, where it ends, and where its group was opened and is not yet closed.
     private static final int SPAN_BITS = 12;
+    private static final int FROM_SHIFT = 0;
     private static final int TO_SHIFT = 4;
     private static final int OPEN_SHIFT = 8;
     private static final long SPAN_MASK = 0xFFFL;
@@ -69,14 +70,19 @@ public final class PatternMatcher {
     private static final int PLACE_SHIFT = 20;
     private static final int NODE_SHIFT = 24;
 
+    // Some 125 ways wait, and some 25,000 steps are gone, with the dearest patterns that were found.
     private static final int WAITING = 256;
-    private static final int SEEN_BITS = 9;
+    private static final int STEPS = 10000000;
+    private static final int SEEN_BITS = 11;
     private static final int SEEN = 1 << SEEN_BITS;
+    private static final int SEEN_TRIES = 8;
+    private static final int SEARCH_SHIFT = 32;
     private static final int SEEN_SHIFT = 64 - SEEN_BITS;
     private static final long SEEN_FACTOR = 0x9E3779B97F4A7C15L;
-    private static final int STEPS = 100000000;
     // Four brackets, a loop that keeps what it took round each and one within: no search stands deeper in others.
     private static final int DEEPEST_SEARCH = 2 * MOST_BRACKETS + 1;
+    private static final int DEPTH_BITS = 4;
+    private static final int DEPTH_MASK = 15;
 
     private static final int FIT = 0;
     private static final int UNFIT = 1;
@@ -104,7 +110,7 @@ public final class PatternMatcher {
         rows = new Row[] {new Row(MOST_PATTERN), text, new Row(MOST_TEMPLATE)};
         program = new Program();
         spare = new Program();
-        search = new Search();
+        search = new Search(program, text);
         made = new Row(MOST_MADE);
         pieceFrom = new int[MOST_MATCHES + 1];
         pieceTo = new int[MOST_MATCHES + 1];
@@ -144,14 +150,14 @@ public final class PatternMatcher {
         if (!compiled) {
             throw new IllegalStateException();
         }
-        return matchAt(0, text.size());
+        return match(0, 0, text.size());
     }
 
     public boolean looking() throws IllegalStateException {
         if (!compiled) {
             throw new IllegalStateException();
         }
-        return matchAt(0, ANYWHERE);
+        return match(0, 0, ANYWHERE);
     }
 
     public int find(int from) throws IndexOutOfBoundsException, IllegalStateException {
@@ -161,7 +167,7 @@ public final class PatternMatcher {
         if (!compiled) {
             throw new IllegalStateException();
         }
-        return matchFoundFrom(from) ? matchFrom : -1;
+        return match(from, text.size(), ANYWHERE) ? matchFrom : -1;
     }
 
     public int start(int group) throws IllegalStateException, IndexOutOfBoundsException {
@@ -198,7 +204,7 @@ public final class PatternMatcher {
         made.empty();
         int copied = 0;
         int from = 0;
-        for (int i = 0; i < MOST_MATCHES && matchFoundFrom(from); i++) {
+        for (int i = 0; i < MOST_MATCHES && match(from, text.size(), ANYWHERE); i++) {
             makeFromText(copied, matchFrom);
             makeFromTemplate();
             copied = matchTo;
@@ -223,7 +229,7 @@ public final class PatternMatcher {
         pieces = 0;
         int kept = 0;
         int from = 0;
-        for (int i = 0; i < MOST_MATCHES && matchFoundFrom(from); i++) {
+        for (int i = 0; i < MOST_MATCHES && match(from, text.size(), ANYWHERE); i++) {
             if (matchTo > 0) {
                 addPiece(kept, matchFrom);
                 kept = matchTo;
@@ -263,19 +269,15 @@ public final class PatternMatcher {
         }
     }
 
-    private boolean matchAt(int from, int mustEnd) {
-        matched = search.firstWay(program, text, from, mustEnd);
-        matchFrom = from;
+    private boolean match(int from, int last, int mustEnd) {
+        matched = false;
+        search.begin(program);
+        for (int place = from; place <= last && !matched; place++) {
+            matched = search.firstWay(place, mustEnd);
+            matchFrom = place;
+        }
         matchTo = search.place;
         matchSpans = search.spans;
-        return matched;
-    }
-
-    private boolean matchFoundFrom(int from) {
-        matched = false;
-        for (int place = from; place <= text.size() && !matched; place++) {
-            matchAt(place, ANYWHERE);
-        }
         return matched;
     }
 
@@ -288,11 +290,11 @@ public final class PatternMatcher {
     }
 
     private int groupFrom(int group) {
-        return group == 0 ? matchFrom : spanFrom(matchSpans, group);
+        return group == 0 ? matchFrom : spanPlace(matchSpans, group, FROM_SHIFT);
     }
 
     private int groupTo(int group) {
-        return group == 0 ? matchTo : spanTo(matchSpans, group);
+        return group == 0 ? matchTo : spanPlace(matchSpans, group, TO_SHIFT);
     }
 
     /** What stands behind a $ or \ without fit comes before a group that is not there, as the document lists them. */
@@ -364,14 +366,6 @@ public final class PatternMatcher {
         return place == NO_PLACE ? -1 : place;
     }
 
-    private static int spanFrom(long spans, int group) {
-        return spanPlace(spans, group, 0);
-    }
-
-    private static int spanTo(long spans, int group) {
-        return spanPlace(spans, group, TO_SHIFT);
-    }
-
     private static long spanOpened(long spans, int group, int place) {
         int shift = (group - 1) * SPAN_BITS + OPEN_SHIFT;
         return spans & ~((long) PLACE_MASK << shift) | (long) place << shift;
@@ -434,12 +428,6 @@ public final class PatternMatcher {
         Node(int number) {
             this.number = number;
         }
-
-        void become(int newKind) {
-            kind = newKind;
-            next = NO_NODE;
-            other = NO_NODE;
-        }
     }
 
     /** The nodes of a pattern, linked by their numbers; number 0 is no node, and has no way. */
@@ -470,9 +458,12 @@ public final class PatternMatcher {
             if (count >= nodes.length) {
                 return NO_NODE;
             }
-            nodes[count].become(kind);
+            Node added = nodes[count];
+            added.kind = kind;
+            added.next = NO_NODE;
+            added.other = NO_NODE;
             count++;
-            return count - 1;
+            return added.number;
         }
 
         Node node(int number) {
@@ -521,7 +512,7 @@ public final class PatternMatcher {
             int head = add(SEQUENCE);
             int last = head;
             for (int i = 0; i < MOST_PATTERN && !bad && !isSequenceOver(); i++) {
-                program.node(last).next = piece(depth);
+                program.node(last).next = onePiece(depth);
                 last = tail;
             }
             program.node(last).next = exit;
@@ -532,7 +523,7 @@ public final class PatternMatcher {
             return at >= row.size() || row.at(at) == '|' || row.at(at) == ')';
         }
 
-        private int piece(int depth) {
+        private int onePiece(int depth) {
             int head = atom(depth);
             if (bad || !readLoop()) {
                 return head;
@@ -821,43 +812,55 @@ public final class PatternMatcher {
         private final long[] waitingSpans;
         private int waiting;
 
-        // Where loops have been before in vain. What is overwritten here is only tried again, so a few rows do.
-        private final int[] seenBy;
-        private final int[] seenAt;
+        // In which search and where loops have been in vain. What finds no room is only tried again.
+        private final long[] seenWhere;
         private final long[] seenSpans;
+        // The searches that stand within one another now, from the outermost on.
+        private final int[] open;
         private int searches;
 
+        private final Row text;
         private Program program;
-        private Row text;
         private int node;
         private int place;
         private int loops;
         private long spans;
 
-        Search() {
+        Search(Program program, Row text) {
+            this.program = program;
+            this.text = text;
             waitingAt = new int[WAITING];
             waitingSpans = new long[WAITING];
-            seenBy = new int[SEEN];
-            seenAt = new int[SEEN];
+            seenWhere = new long[SEEN];
             seenSpans = new long[SEEN];
+            open = new int[DEEPEST_SEARCH + 1];
+        }
+
+        void begin(Program newProgram) {
+            program = newProgram;
+            openSearch(0);
         }
 
         /** Whether there is a way from a place; its end and spans are then in place and spans. */
-        boolean firstWay(Program newProgram, Row newText, int from, int mustEnd) {
-            program = newProgram;
-            text = newText;
+        boolean firstWay(int from, int mustEnd) {
             waiting = 0;
             place = from;
             spans = NO_SPANS;
             return run(program.first, mustEnd, 0);
         }
 
+        private void openSearch(int depth) {
+            if (depth < open.length) {
+                searches++;
+                open[depth] = searches << DEPTH_BITS | depth;
+            }
+        }
+
+        /** Within one open search all ways that end in the same place are one: what was in vain stays so. */
         private boolean run(int body, int mustEnd, int depth) {
-            if (depth > DEEPEST_SEARCH) {
+            if (depth >= open.length) {
                 return false;
             }
-            searches++;
-            int search = searches;
             int base = waiting;
             node = body;
             loops = 0;
@@ -868,7 +871,7 @@ public final class PatternMatcher {
                 }
                 Node here = program.node(node);
                 if (here.kind != DONE) {
-                    alive = step(here, search, depth);
+                    alive = step(here, depth);
                 } else if (mustEnd == ANYWHERE || mustEnd == place) {
                     waiting = base;
                     return true;
@@ -880,7 +883,7 @@ public final class PatternMatcher {
             return false;
         }
 
-        private boolean step(Node here, int search, int depth) {
+        private boolean step(Node here, int depth) {
             node = here.next;
             switch (here.kind) {
                 case SET:
@@ -910,7 +913,7 @@ public final class PatternMatcher {
                     loops = withLoop(here.slot, TOOK);
                     return true;
                 case LOOP:
-                    return !wasHere(here, search) && loop(here);
+                    return !wasHere(here, depth) && loop(here);
                 case LOOK:
                     return look(here, depth);
                 case ATOMIC:
@@ -929,8 +932,8 @@ public final class PatternMatcher {
         }
 
         private boolean takeSpanAgain(int group) {
-            int from = spanFrom(spans, group);
-            int size = spanTo(spans, group) - from;
+            int from = spanPlace(spans, group, FROM_SHIFT);
+            int size = spanPlace(spans, group, TO_SHIFT) - from;
             if (from < 0 || place + size > text.size()) {
                 return false;
             }
@@ -992,7 +995,7 @@ public final class PatternMatcher {
             if (waiting >= WAITING) {
                 return false;
             }
-            waitingAt[waiting] = atNode << NODE_SHIFT | place << PLACE_SHIFT | withLoops;
+            waitingAt[waiting] = packed(atNode, withLoops);
             waitingSpans[waiting] = spans;
             waiting++;
             return true;
@@ -1011,25 +1014,41 @@ public final class PatternMatcher {
          * A way that comes to a loop just as one before it fails as that did: without this, loops within loops would
          * be tried in more ways than can be gone through.
          */
-        private boolean wasHere(Node here, int search) {
+        private boolean wasHere(Node here, int depth) {
             int loopsAround = loops & (1 << (here.slot + 1) * LOOP_BITS) - 1;
-            int at = here.number << NODE_SHIFT | place << PLACE_SHIFT | loopsAround;
+            long where = (long) open[depth] << SEARCH_SHIFT | packed(here.number, loopsAround);
             long asked = spans & program.asked;
-            int i = (int) ((asked * 31 + at + search) * SEEN_FACTOR >>> SEEN_SHIFT);
-            if (seenBy[i] == search && seenAt[i] == at && seenSpans[i] == asked) {
-                return true;
+            int first = (int) ((asked * 31 + where) * SEEN_FACTOR >>> SEEN_SHIFT);
+            int free = first;
+            for (int k = SEEN_TRIES - 1; k >= 0; k--) {
+                int i = first + k & SEEN - 1;
+                if (seenWhere[i] == where && seenSpans[i] == asked) {
+                    return true;
+                }
+                if (isOver((int) (seenWhere[i] >>> SEARCH_SHIFT), depth)) {
+                    free = i;
+                }
             }
-            seenBy[i] = search;
-            seenAt[i] = at;
-            seenSpans[i] = asked;
+            seenWhere[free] = where;
+            seenSpans[free] = asked;
             return false;
+        }
+
+        private boolean isOver(int search, int depth) {
+            int itsDepth = search & DEPTH_MASK;
+            return itsDepth > depth || open[itsDepth] != search;
+        }
+
+        private int packed(int atNode, int withLoops) {
+            return atNode << NODE_SHIFT | place << PLACE_SHIFT | withLoops;
         }
 
         private boolean look(Node here, int depth) {
             int placeBefore = place;
             int loopsBefore = loops;
             long spansBefore = spans;
-            boolean found = here.behind ? lookBehind(here.other, depth) : run(here.other, ANYWHERE, depth + 1);
+            openSearch(depth + 1);
+            boolean found = here.behind ? lookBehind(here.other, depth + 1) : run(here.other, ANYWHERE, depth + 1);
             node = here.next;
             place = placeBefore;
             loops = loopsBefore;
@@ -1045,7 +1064,7 @@ public final class PatternMatcher {
             for (int from = here; from >= 0; from--) {
                 place = from;
                 spans = spansBefore;
-                if (run(body, here, depth + 1)) {
+                if (run(body, here, depth)) {
                     return true;
                 }
             }
@@ -1055,6 +1074,7 @@ public final class PatternMatcher {
         private boolean atomic(Node here, int depth) {
             int placeBefore = place;
             int loopsBefore = loops;
+            openSearch(depth + 1);
             boolean found = run(here.other, ANYWHERE, depth + 1);
             int placeBehind = place;
             node = here.next;

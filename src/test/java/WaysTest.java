@@ -1,3 +1,4 @@
+import java.util.ArrayList;
 import java.util.List;
 import java.util.Random;
 
@@ -109,7 +110,9 @@ public final class WaysTest {
             String text = text();
             Check.fill(x, 1, text);
             try {
-                compareMatches(x, new Ways(pattern, text), pattern, text);
+                Ways ways = new Ways(pattern, text);
+                compareMatches(x, ways, pattern, text);
+                compareSuccessive(x, ways, pattern, text);
             } catch (Ways.NoPattern e) {
                 throw new IllegalStateException(e);
             }
@@ -133,6 +136,64 @@ public final class WaysTest {
                 ways.groups());
             begin--;
         }
+    }
+
+    /** Replaces by <$0>, or <$1> if there is a group, and splits. */
+    private static void compareSuccessive(PatternMatcher x, Ways ways, String pattern, String text) {
+        int group = ways.groups() > 0 ? 1 : 0;
+        Check.fill(x, 2, "<$" + group + ">");
+        StringBuilder made = new StringBuilder();
+        List<String> pieces = new ArrayList<>();
+        int end = 0;
+        int pieceFrom = 0;
+        boolean left = false;
+        int place = 0;
+        while (place <= text.length()) {
+            List<Integer> way = ways.first(place, -1);
+            if (way == null) {
+                place++;
+                continue;
+            }
+            int from = group == 0 ? place : way.get(1);
+            int to = group == 0 ? way.get(0) : way.get(2);
+            made.append(text, end, place).append('<').append(from < 0 ? "" : text.substring(from, to)).append('>');
+            end = way.get(0);
+            if (end > 0) {
+                left = true;
+                pieces.add(pieceFrom + "-" + place);
+                pieceFrom = end;
+            }
+            place = end > place ? end : end + 1;
+        }
+        made.append(text, end, text.length());
+        pieces.add(pieceFrom + "-" + text.length());
+        while (left && !pieces.isEmpty() && isEmpty(pieces.get(pieces.size() - 1))) {
+            pieces.remove(pieces.size() - 1);
+        }
+        dueMade(x, " of " + pattern + " in " + text, made.toString());
+        duePieces(x, " of " + pattern + " in " + text, pieces);
+    }
+
+    private static boolean isEmpty(String piece) {
+        return piece.charAt(0) == piece.charAt(2);
+    }
+
+    private static void dueMade(PatternMatcher x, String name, String want) {
+        int size = x.replace();
+        StringBuilder made = new StringBuilder();
+        for (int i = 0; i < size; i++) {
+            made.append(x.replaced(i));
+        }
+        Check.due("replace()" + name, made.toString(), want);
+    }
+
+    private static void duePieces(PatternMatcher x, String name, List<String> want) {
+        int count = x.split();
+        List<String> pieces = new ArrayList<>();
+        for (int k = 0; k < count; k++) {
+            pieces.add(x.piece(k, 0) + "-" + x.piece(k, 1));
+        }
+        Check.due("split()" + name, pieces, want);
     }
 
     private static void dueWay(PatternMatcher x, String name, boolean found, int from, List<Integer> way, int groups) {
