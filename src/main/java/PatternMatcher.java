@@ -88,10 +88,9 @@ public final class PatternMatcher {
     private static final int UNFIT = 1;
     private static final int UNKNOWN_GROUP = 2;
 
-    private final Row[] rows;
-    private final Row text;
     private final Search search;
-    private Program program;
+    private final Row text;
+    private final Row[] rows;
     private Program spare;
     private boolean compiled;
 
@@ -106,11 +105,10 @@ public final class PatternMatcher {
     private int pieces;
 
     public PatternMatcher() {
-        text = new Row(MOST_TEXT);
+        search = new Search();
+        text = search.text;
         rows = new Row[] {new Row(MOST_PATTERN), text, new Row(MOST_TEMPLATE)};
-        program = new Program();
         spare = new Program();
-        search = new Search(program, text);
         made = new Row(MOST_MADE);
         pieceFrom = new int[MOST_MATCHES + 1];
         pieceTo = new int[MOST_MATCHES + 1];
@@ -138,12 +136,12 @@ public final class PatternMatcher {
         if (!new Reader(rows[PATTERN], spare).readPattern()) {
             throw new IllegalArgumentException();
         }
-        Program before = program;
-        program = spare;
+        Program before = search.program;
+        search.program = spare;
         spare = before;
         compiled = true;
         matched = false;
-        return program.groups;
+        return search.program.groups;
     }
 
     public boolean matches() throws IllegalStateException {
@@ -271,7 +269,7 @@ public final class PatternMatcher {
 
     private boolean match(int from, int last, int mustEnd) {
         matched = false;
-        search.begin(program);
+        search.openSearch(0);
         for (int place = from; place <= last && !matched; place++) {
             matched = search.firstWay(place, mustEnd);
             matchFrom = place;
@@ -286,7 +284,7 @@ public final class PatternMatcher {
     }
 
     private boolean isGroup(int group) {
-        return group >= 0 && group <= program.groups;
+        return group >= 0 && group <= search.program.groups;
     }
 
     private int groupFrom(int group) {
@@ -826,9 +824,9 @@ public final class PatternMatcher {
         private int loops;
         private long spans;
 
-        Search(Program program, Row text) {
-            this.program = program;
-            this.text = text;
+        Search() {
+            text = new Row(MOST_TEXT);
+            program = new Program();
             waitingAt = new int[WAITING];
             waitingSpans = new long[WAITING];
             seenWhere = new long[SEEN];
@@ -836,9 +834,12 @@ public final class PatternMatcher {
             open = new int[DEEPEST_SEARCH + 1];
         }
 
-        void begin(Program newProgram) {
-            program = newProgram;
-            openSearch(0);
+        /** What was in vain in a search before is no longer known: the text or the end may be another. */
+        void openSearch(int depth) {
+            if (depth < open.length) {
+                searches++;
+                open[depth] = searches << DEPTH_BITS | depth;
+            }
         }
 
         /** Whether there is a way from a place; its end and spans are then in place and spans. */
@@ -849,14 +850,6 @@ public final class PatternMatcher {
             return run(program.first, mustEnd, 0);
         }
 
-        private void openSearch(int depth) {
-            if (depth < open.length) {
-                searches++;
-                open[depth] = searches << DEPTH_BITS | depth;
-            }
-        }
-
-        /** Within one open search all ways that end in the same place are one: what was in vain stays so. */
         private boolean run(int body, int mustEnd, int depth) {
             if (depth >= open.length) {
                 return false;

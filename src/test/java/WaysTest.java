@@ -12,6 +12,8 @@ public final class WaysTest {
     private static final String SIGNS = "ab01259|()[]{}*+?.^$\\-,:=!<>dwbB_ ";
 
     private final Random random;
+    // A new object first has the pattern before, so that what that leaves behind would show.
+    private String before = "";
 
     private WaysTest(long seed) {
         random = new Random(seed);
@@ -105,10 +107,12 @@ public final class WaysTest {
         } catch (Ways.NoPattern e) {
             return;
         }
-        PatternMatcher x = Check.with(pattern, "");
         for (int i = 0; i < 4; i++) {
             String text = text();
-            Check.fill(x, 1, text);
+            PatternMatcher x = Check.with(before, text);
+            x.find(0);
+            Check.fill(x, 0, pattern);
+            x.compile();
             try {
                 Ways ways = new Ways(pattern, text);
                 compareMatches(x, ways, pattern, text);
@@ -117,6 +121,7 @@ public final class WaysTest {
                 throw new IllegalStateException(e);
             }
         }
+        before = pattern;
     }
 
     private static void compareMatches(PatternMatcher x, Ways ways, String pattern, String text) {
