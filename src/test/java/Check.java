@@ -2,6 +2,7 @@ import java.util.Objects;
 
 /** Counts and prints what is not as it is due; every test ends with done(). */
 final class Check {
+    private static final String NO_MATCH = "IllegalStateException-IllegalStateException";
     private static int wrong = 0;
     private static int checks = 0;
 
@@ -52,6 +53,12 @@ final class Check {
         return x;
     }
 
+    /** The match as spans() tells it; - if there is none. */
+    static String match(PatternMatcher x) {
+        String spans = spans(x);
+        return spans.startsWith(NO_MATCH) ? "-" : spans;
+    }
+
     /** The match as text: from-to of the groups 0 .. n, a dot for no span. */
     static String spans(PatternMatcher x) {
         StringBuilder s = new StringBuilder();
@@ -64,6 +71,33 @@ final class Check {
             }
             s.append(group == 0 ? "" : " ").append(from.equals(-1) && to.equals(-1) ? "." : from + "-" + to);
         }
+        return s.toString();
+    }
+
+    /** What the latest replace() made, read up to the first character that is not there. */
+    static String made(PatternMatcher x) {
+        StringBuilder s = new StringBuilder();
+        Object c = answer(() -> x.replaced(0));
+        while (c instanceof Character) {
+            s.append(c);
+            c = answer(() -> x.replaced(s.length()));
+        }
+        due("replaced(" + s.length() + "), which is behind the end", c, "IndexOutOfBoundsException");
+        return s.toString();
+    }
+
+    /** The pieces of the latest split() as from-to, read up to the first that is not there. */
+    static String pieces(PatternMatcher x) {
+        StringBuilder s = new StringBuilder();
+        Object from = answer(() -> x.piece(0, 0));
+        int count = 0;
+        while (from instanceof Integer) {
+            int k = count;
+            s.append(k == 0 ? "" : " ").append(from).append('-').append(answer(() -> x.piece(k, 1)));
+            count++;
+            from = answer(() -> x.piece(k + 1, 0));
+        }
+        due("piece(" + count + ", 0), which is behind the last", from, "IndexOutOfBoundsException");
         return s.toString();
     }
 

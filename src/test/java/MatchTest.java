@@ -1,7 +1,5 @@
 /** Promises 5 to 9: matches, looking, find, start and end, and the order in which ways are tried. */
 public final class MatchTest {
-    private static final String NONE = "IllegalStateException-IllegalStateException";
-
     /** Pattern, text, the spans of find(0): from-to of the groups 0 .. n, a dot for none; - for no match. */
     private static final String[][] FOUND = {
         // characters, ., classes
@@ -147,8 +145,7 @@ public final class MatchTest {
 
     private static void spans(String what, PatternMatcher x, boolean answer, String want) {
         Check.due(what, answer, !want.equals("-"));
-        String spans = Check.spans(x);
-        Check.due(what + ", spans", spans.startsWith(NONE) ? "-" : spans, want);
+        Check.due(what + ", spans", Check.match(x), want);
     }
 
     private static void findFrom() {
