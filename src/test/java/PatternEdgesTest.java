@@ -234,6 +234,11 @@ public final class PatternEdgesTest {
         standsFor("[^\\da]", without(from('0', '9') + "a"));
         standsFor("[|(){}*+?.$]", "|(){}*+?.$");
         standsFor("[\\[\\]\\^\\-\\\\]", SPECIAL_ITEM);
+        matches("[a][b]", "ab");
+        matchesNot("[a][b]", "aa", "bb");
+        matchesNot("[1][2]", "11", "22");
+        matchesNot("a[b]", "aa");
+        matchesNot("1[2]", "11");
     }
 
     // "{m}, {m,} and {m,n} with digits 0 .. 4"
@@ -420,17 +425,22 @@ public final class PatternEdgesTest {
 
     // "Row 0 is compiled, in the place of the pattern that was: how many groups it has."
     private static void inThePlaceOfThePattern() {
-        String[] rows = {"(a)", "()()()()", "", "b", "(a)(b)", "((((a*)*)*)*)*", "[^a]"};
-        int[] groups = {1, 4, 0, 0, 2, 4, 0};
-        String[] spans = {"0-1 0-1", "0-0 0-0 0-0 0-0 0-0", "0-0", "1-2", "0-2 0-1 1-2", "0-1 1-1 1-1 1-1 1-1", "1-2"};
+        String[] rows = {"(a)", "()()()()", "", "b", "(a)(b)", "((((a*)*)*)*)*", "[^a]", "c|b", "cb", "^b|$"};
+        int[] groups = {1, 4, 0, 0, 2, 4, 0, 0, 0, 0};
+        String[] spans = {"0-1 0-1", "0-0 0-0 0-0 0-0 0-0", "0-0", "1-2", "0-2 0-1 1-2", "0-1 1-1 1-1 1-1 1-1", "1-2",
+            "1-2", "-", "2-2"};
         for (int first = 0; first < rows.length; first++) {
             for (int then = 0; then < rows.length; then++) {
-                PatternMatcher x = Check.with(rows[first], "ab");
-                x.find(0);
-                Check.fill(x, 0, rows[then]);
-                Check.due("compile() of " + rows[then] + " after " + rows[first], x::compile, groups[then]);
-                x.find(0);
-                Check.due("match of " + rows[then] + " after " + rows[first], Check.match(x), spans[then]);
+                for (int last = 0; last < rows.length; last++) {
+                    PatternMatcher x = Check.with(rows[first], "ab");
+                    String name = " of " + rows[last] + " after " + rows[first] + " and " + rows[then];
+                    Check.fill(x, 0, rows[then]);
+                    Check.due("compile() of " + rows[then] + " after " + rows[first], x::compile, groups[then]);
+                    Check.fill(x, 0, rows[last]);
+                    Check.due("compile()" + name, x::compile, groups[last]);
+                    x.find(0);
+                    Check.due("match" + name, Check.match(x), spans[last]);
+                }
             }
         }
         PatternMatcher y = Check.with("a", "b");

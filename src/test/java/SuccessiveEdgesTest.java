@@ -218,12 +218,14 @@ public final class SuccessiveEdgesTest {
     // replace, split: "there is no match then"
     private static void noMatchThen() {
         for (String pattern : new String[] {"", "b", "a*", "$", "^"}) {
-            PatternMatcher x = withTemplate(pattern, "aba", "-");
-            x.replace();
-            Check.due("match after replace() of " + pattern, Check.match(x), "-");
-            x.find(0);
-            x.split();
-            Check.due("match after split() by " + pattern, Check.match(x), "-");
+            for (String text : new String[] {"", "b", "aba", "aaaaaaa", "abcdefgh"}) {
+                PatternMatcher x = withTemplate(pattern, text, "-");
+                x.replace();
+                Check.due("match after replace() of " + pattern + " in " + text, Check.match(x), "-");
+                x.find(0);
+                x.split();
+                Check.due("match after split() of " + text + " by " + pattern, Check.match(x), "-");
+            }
         }
         PatternMatcher x = withTemplate("(b)", "abc", "<$1>");
         Check.due("replace()", x::replace, 5);

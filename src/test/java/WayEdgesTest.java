@@ -140,6 +140,8 @@ public final class WayEdgesTest {
         found("(a)(b)\\1\\2", "abab", "0-4 0-1 1-2");
         found("(a)(b)\\1\\2", "abaa", "-");
         found("(a|b)*\\1", "abb", "0-3 1-2");
+        found("(a*)a*\\1$", "aaa", "0-3 0-1");
+        found("()(a*)a*\\2$", "aaa", "0-3 0-0 0-1");
     }
 
     // "none, if the group has no span"
@@ -219,6 +221,9 @@ public final class WayEdgesTest {
         found("(a*?)*", "aa", "0-0 0-0");
         found("(a*)+?", "aa", "0-2 0-2");
         found("()\\1*a", "a", "0-1 0-0");
+        found("()(\\1)*", "", "0-0 0-0 0-0");
+        found("(?>a)*", "aa", "0-2");
+        found("(?:a{2}+)*", "aaaaa", "0-4");
         found("((a*)*)*", "a", "0-1 1-1 1-1");
         found("(?:(?=a)|a)*$", "aa", "0-2");
         found("^(\\b|a)*$", "aa", "0-2 2-2");
@@ -265,6 +270,8 @@ public final class WayEdgesTest {
         found("(?>a??)a", "a", "0-1");
         found("(?>(a)|(b))", "b", "0-1 . 0-1");
         found("(?>a|b){2}", "ab", "0-2");
+        found("(?>a*){2}", "", "0-0");
+        found("(?:a*+){2}", "", "0-0");
     }
 
     // "AHEAD: (?= one way, where it is, with the spans of the first way of its choice; none, if that has none."
@@ -281,6 +288,7 @@ public final class WayEdgesTest {
         found("(?=.{4}.{4}$)", "abcdefgh", "0-0");
         found("(?=.{4}.{4}.)", "abcdefgh", "-");
         found("(?=a)*b", "b", "0-1");
+        found("(?=a*){2}", "a", "0-0");
         found("(?=(a)|)", "b", "0-0 .");
     }
 
@@ -335,6 +343,7 @@ public final class WayEdgesTest {
         places("(?<=a{1,2}+)", "aaa", "23");
         found("(?<=(ab|a))b", "ab", "1-2 0-1");
         found("(?<=(a)|(b))c", "bc", "1-2 . 0-1");
+        found("(?<=..|(a)c)b", "xab", "2-3 .");
     }
 
     // BEHIND, (?<! "the same": a way with the spans as they were, if there is none that ends just here

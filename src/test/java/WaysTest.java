@@ -12,7 +12,7 @@ public final class WaysTest {
     private static final String SIGNS = "ab01259|()[]{}*+?.^$\\-,:=!<>dwbB_ ";
 
     private final Random random;
-    // A new object first has the pattern before, so that what that leaves behind would show.
+    // A new object first has the pattern before, twice, so that what that leaves behind would show.
     private String before = "";
 
     private WaysTest(long seed) {
@@ -110,6 +110,7 @@ public final class WaysTest {
         for (int i = 0; i < 4; i++) {
             String text = text();
             PatternMatcher x = Check.with(before, text);
+            x.compile();
             x.find(0);
             Check.fill(x, 0, pattern);
             x.compile();
