@@ -142,6 +142,8 @@ public final class WayEdgesTest {
         found("(a|b)*\\1", "abb", "0-3 1-2");
         found("(a*)a*\\1$", "aaa", "0-3 0-1");
         found("()(a*)a*\\2$", "aaa", "0-3 0-0 0-1");
+        found("(a*)a*\\1b", "ab", "0-2 0-0");
+        found("(a+|\\1){2}", "aaaaaaaa", "0-8 7-8");
     }
 
     // "none, if the group has no span"
