@@ -767,10 +767,10 @@ public final class PatternMatcher {
         }
 
         private int set(long inLow, long inHigh) {
-            int head = single(SET);
-            program.node(head).low = inLow;
-            program.node(head).high = inHigh;
-            return head;
+            tail = add(SET);
+            program.node(tail).low = inLow;
+            program.node(tail).high = inHigh;
+            return tail;
         }
 
         private int single(int kind) {

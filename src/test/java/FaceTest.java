@@ -45,6 +45,8 @@ public final class FaceTest {
         noNameTwice(PatternMatcher.class, names);
         for (Class<?> inside : PatternMatcher.class.getDeclaredClasses()) {
             Check.due(inside + " is static", Modifier.isStatic(inside.getModifiers()), true);
+            int seenFromOutside = inside.getModifiers() & (Modifier.PUBLIC | Modifier.PROTECTED);
+            Check.due(inside + " is private or package-visible", seenFromOutside, 0);
             noNameTwice(inside, names);
         }
         Check.done();
