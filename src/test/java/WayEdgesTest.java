@@ -10,9 +10,12 @@ public final class WayEdgesTest {
         backReferenceThatFits();
         groupWithoutSpan();
         groupSpans();
+        together();
+        sequencesInOrder();
         choicesInOrder();
         loopBelowItsLeast();
         loopThatTookNothing();
+        greedyAndLazy();
         loopSpansStay();
         possessive();
         atomic();
@@ -173,6 +176,38 @@ public final class WayEdgesTest {
         found("(ab|a)(bc|c)$", "abc", "0-3 0-2 2-3");
     }
 
+    // "(?: the ways of its choice."
+    private static void together() {
+        found("(?:)", "", "0-0");
+        found("(?:a|ab)", "ab", "0-1");
+        found("(?:a|ab)$", "ab", "0-2");
+        found("(?:a|ab)c", "abc", "0-3");
+        found("(?:a|ab)(c)", "abc", "0-3 2-3");
+        found("(?:(a)|b)+", "ab", "0-2 0-1");
+        whole("(?:a|ab)", "ab", "0-2");
+        whole("(?:ab)?", "ab", "0-2");
+        whole("(?:ab)?", "a", "-");
+    }
+
+    // "A sequence: for each way of its first piece, in order, those of the rest from there."; "the next one is looked
+    // for when what follows has no way from there"
+    private static void sequencesInOrder() {
+        found("(a|ab)(c|bc)", "abc", "0-3 0-1 1-3");
+        found("(ab|a)(c|bc)", "abc", "0-3 0-2 2-3");
+        found("(a|ab)(c|bc)d", "abcd", "0-4 0-1 1-3");
+        found("(a|ab)(c|bcd)d", "abcd", "0-4 0-2 2-3");
+        found("(a|ab)(c|bcd)e", "abcd", "-");
+        found("(a*)(a*)", "aaa", "0-3 0-3 3-3");
+        found("(a*?)(a*)", "aaa", "0-3 0-0 0-3");
+        found("(a*)(a*?)a", "aaa", "0-3 0-2 2-2");
+        found("(a?)(a?)(a)", "aa", "0-2 0-1 1-1 1-2");
+        found("(a??)(a?)(a)", "aa", "0-2 0-0 0-1 1-2");
+        whole("(a??)(a?)(a*)", "aaa", "0-3 0-0 0-1 1-3");
+        whole("(a?)(a??)(a?)", "aaa", "0-3 0-1 1-2 2-3");
+        whole("(a?)(a??)(a?)", "aa", "0-2 0-1 1-1 1-2");
+        whole("(a?)(a??)(a?)", "aaaa", "-");
+    }
+
     // "A choice: those of the first sequence, then those of the second, and so on."
     private static void choicesInOrder() {
         found("a|ab|abc", "abc", "0-1");
@@ -231,6 +266,27 @@ public final class WayEdgesTest {
         found("^(\\b|a)*$", "aa", "0-2 2-2");
         found("^(a|\\b)*$", "aa", "0-2 2-2");
         found("(^|a)*", "aa", "0-0 0-0");
+    }
+
+    // "GREEDY: on, then end. LAZY: end, then on."
+    private static void greedyAndLazy() {
+        found("a{1,3}", "aaaa", "0-3");
+        found("a{1,3}?", "aaaa", "0-1");
+        found("a{0,3}?", "aaaa", "0-0");
+        whole("(a{1,3})(a*)", "aaaa", "0-4 0-3 3-4");
+        whole("(a{1,3}?)(a*)", "aaaa", "0-4 0-1 1-4");
+        whole("(a{1,3}?)(a?)", "aaaa", "0-4 0-3 3-4");
+        found("(a{1,3})a{3}", "aaaaa", "0-5 0-2");
+        found("(a{1,3}?)a{3}", "aaaaa", "0-4 0-1");
+        found("(a{1,3}?)b", "aaab", "0-4 0-3");
+        found("(a{1,3}?)b", "aaaab", "1-5 1-4");
+        found("(a+)(b*)", "aabb", "0-4 0-2 2-4");
+        found("(a+?)(b*)", "aabb", "0-1 0-1 1-1");
+        found("(a|ab)*", "abab", "0-1 0-1");
+        found("(a|ab)*$", "abab", "0-4 2-4");
+        found("(a|ab)*?b", "abab", "0-2 0-1");
+        found("(.*)(b.*)", "abab", "0-4 0-3 3-4");
+        found("(.*?)(b.*)", "abab", "0-4 0-1 1-4");
     }
 
     // "Spans stay from one time to the next."
